@@ -269,6 +269,8 @@ public final class SyntaxForge {
         Type base;
         long first;
         Type rest;
+        long identifier;
+        int identifierBytes;
 
         Type(int sort) {
             kind = sort;
@@ -281,11 +283,7 @@ public final class SyntaxForge {
         }
 
         boolean isConstructed() {
-            return hasParts() || isList();
-        }
-
-        boolean isList() {
-            return kind == SEQUENCE_OF || kind == SET_OF;
+            return (kind & 31) == SEQUENCE || (kind & 31) == SET;
         }
 
         boolean hasParts() {
@@ -356,6 +354,24 @@ public final class SyntaxForge {
                 first = kind == TAGGED ? tag : inner.first;
                 rest = kind == TAGGED && explicit && inner.first >= 0 ? inner : inner.rest;
             }
+            if (first >= 0) {
+                identify(rest != null || base.kind == CHOICE || base.isConstructed());
+            }
+        }
+
+        /** The bytes of the first identifier from the highest of eight on, so that they compare as numbers. */
+        private void identify(boolean constructed) {
+            long number = first & (1L << 40) - 1;
+            long head = first >> 40 << 6 | (constructed ? 32 : 0) | Math.min(number, 31);
+            identifier = head << 56;
+            identifierBytes = 1;
+            if (number >= 31) {
+                int more = Bytes.sevens(number);
+                for (int i = 0; i < more; i++) {
+                    identifier |= (long) Bytes.sevenOf(number, more - 1 - i) << 48 - 8 * i;
+                }
+                identifierBytes += more;
+            }
         }
 
         /** A CHOICE within a PART or an ALTERNATIVE has a least TAG before this is asked. */
@@ -415,6 +431,7 @@ public final class SyntaxForge {
         static final int UPTO = 9;
         static final int DOTS = 10;
         static final int KEPT = 128;
+        static final int KEPT_WORDS = 35;
         static final int K_DEFINITIONS = 128;
         static final int K_EXPLICIT = 129;
         static final int K_IMPLICIT = 130;
@@ -477,7 +494,7 @@ public final class SyntaxForge {
         }
 
         static boolean isLetter(int c) {
-            return c >= 'a' && c <= 'z' || isCapital(c);
+            return c >= 'a' && c <= 'z' || c >= 'A' && c <= 'Z';
         }
 
         static int hexDigit(int c) {
@@ -504,27 +521,16 @@ public final class SyntaxForge {
         }
 
         int blanks(int from) {
-            int i = from;
-            while (i < tape.length) {
+            boolean comment = false;
+            for (int i = from; i < tape.length; i++) {
                 int c = tape.get(i);
                 if (c == '-' && tape.get(i + 1) == '-') {
-                    i = behindComment(i + 2);
-                } else if (c == 9 || c == 10 || c == 13 || c == 32) {
+                    comment = !comment;
                     i++;
-                } else {
+                } else if (comment) {
+                    comment = c != 10;
+                } else if (c != 9 && c != 10 && c != 13 && c != 32) {
                     return i;
-                }
-            }
-            return tape.length;
-        }
-
-        private int behindComment(int from) {
-            for (int i = from; i < tape.length; i++) {
-                if (tape.get(i) == 10) {
-                    return i + 1;
-                }
-                if (tape.get(i) == '-' && tape.get(i + 1) == '-') {
-                    return i + 2;
                 }
             }
             return tape.length;
@@ -534,18 +540,18 @@ public final class SyntaxForge {
         private int token(int i) {
             int c = tape.get(i);
             if (isLetter(c)) {
-                return word(i);
+                return scanWord(i);
             }
             if (isDigit(c)) {
-                return number(i);
+                return scanNumber(i);
             }
             if (c == '"') {
-                return string(i);
+                return scanString(i);
             }
-            return c == '\'' ? quoted(i) : sign(i, c);
+            return c == '\'' ? scanDigits(i) : scanSign(i, c);
         }
 
-        private int keep(int kind, int place, long number) {
+        private void keep(int kind, int place, long number) {
             if (count >= kinds.length) {
                 kinds = Arrays.copyOf(kinds, 2 * count + 16);
                 places = Arrays.copyOf(places, 2 * count + 16);
@@ -555,7 +561,6 @@ public final class SyntaxForge {
             places[count] = place;
             numbers[count] = number;
             count++;
-            return place;
         }
 
         private boolean goesOn(int i) {
@@ -563,13 +568,13 @@ public final class SyntaxForge {
             return isLetter(c) || isDigit(c);
         }
 
-        private int word(int from) {
+        private int scanWord(int from) {
             int i = from + 1;
             while (i < tape.length && (goesOn(i) || tape.get(i) == '-' && goesOn(i + 1))) {
                 i++;
             }
             int symbol = names.symbol(tape, from, i - from, adding);
-            if (symbol >= 0 && symbol < names.kept) {
+            if (symbol >= 0 && symbol < KEPT_WORDS) {
                 keep(KEPT + symbol, from, 0);
             } else {
                 keep(isCapital(tape.get(from)) ? TYPENAME : ID, from, symbol);
@@ -577,7 +582,7 @@ public final class SyntaxForge {
             return i;
         }
 
-        private int number(int from) {
+        private int scanNumber(int from) {
             long n = 0;
             int i = from;
             for (; isDigit(tape.get(i)); i++) {
@@ -591,7 +596,7 @@ public final class SyntaxForge {
             return i;
         }
 
-        private int string(int from) {
+        private int scanString(int from) {
             for (int i = from + 1; i < tape.length; i++) {
                 int c = tape.get(i);
                 if (c < 1 || c > 127) {
@@ -608,7 +613,7 @@ public final class SyntaxForge {
             return -1;
         }
 
-        private int quoted(int from) {
+        private int scanDigits(int from) {
             boolean binary = true;
             int i = blanks(from + 1);
             for (; hexDigit(tape.get(i)) >= 0; i = blanks(i + 1)) {
@@ -622,7 +627,7 @@ public final class SyntaxForge {
             return i + 2;
         }
 
-        private int sign(int i, int c) {
+        private int scanSign(int i, int c) {
             if (c == ':' && tape.get(i + 1) == ':' && tape.get(i + 2) == '=') {
                 keep(ASSIGN, i, 0);
                 return i + 3;
@@ -650,12 +655,12 @@ public final class SyntaxForge {
 
         final ArrayList<Type> assigned;
         final Values defaults;
-        final int kept;
         int mode;
         boolean broken;
         private final ArrayList<Type> types;
         private final ArrayList<Member> standards;
         private final ArrayList<Type> path;
+        private final Bytes words;
         private final Bytes letters;
         private final int[] buckets;
         private int[] starts;
@@ -674,6 +679,10 @@ public final class SyntaxForge {
             types = new ArrayList<>();
             standards = new ArrayList<>();
             path = new ArrayList<>();
+            words = new Bytes(Scanner.WORDS.length());
+            for (int i = 0; i < Scanner.WORDS.length(); i++) {
+                words.put(Scanner.WORDS.charAt(i));
+            }
             letters = new Bytes(512);
             buckets = new int[BUCKETS];
             starts = new int[64];
@@ -683,7 +692,7 @@ public final class SyntaxForge {
             steps = new int[16];
             keys = new long[64];
             stamps = new int[64];
-            kept = keepWords();
+            clear();
         }
 
         void clear() {
@@ -700,21 +709,17 @@ public final class SyntaxForge {
         }
 
         /** KEPT words are the first symbols, so one look tells them from names. */
-        private int keepWords() {
+        private void keepWords() {
             Arrays.fill(buckets, -1);
             letters.length = 0;
             symbols = 0;
-            Bytes words = new Bytes(Scanner.WORDS.length());
             int from = 0;
-            for (int i = 0; i <= Scanner.WORDS.length(); i++) {
-                char c = i < Scanner.WORDS.length() ? Scanner.WORDS.charAt(i) : ' ';
-                if (c == ' ') {
+            for (int i = 0; i <= words.length; i++) {
+                if (i == words.length || words.get(i) == ' ') {
                     symbol(words, from, i - from, true);
                     from = i + 1;
                 }
-                words.put(c);
             }
-            return symbols;
         }
 
         /** Equal names have equal symbols; -1 for one that is unknown and not to be added. */
@@ -1032,6 +1037,9 @@ public final class SyntaxForge {
 
         /** PER counts ITEMS by their numbers, ALTERNATIVES and PARTS of a SET by their TAGS. */
         private void arrange(Type t) {
+            if (t.members == null) {
+                return;
+            }
             Member[] row = new Member[t.roots];
             for (int i = 0; i < t.roots; i++) {
                 row[i] = t.members.get(i);
@@ -1147,16 +1155,12 @@ public final class SyntaxForge {
             return i < scanner.count ? scanner.kinds[i] : Scanner.BAD;
         }
 
-        private int place() {
-            return at < scanner.count ? scanner.places[at] : tape.length;
-        }
-
         private long number() {
             return at < scanner.count ? scanner.numbers[at] : 0;
         }
 
         private void fail() {
-            scanner.told = place();
+            scanner.told = at < scanner.count ? scanner.places[at] : tape.length;
             throw new UnsupportedOperationException();
         }
 
@@ -1370,8 +1374,13 @@ public final class SyntaxForge {
                     } else {
                         m.type = type(depth + 1);
                     }
-                    if (t.hasParts()) {
-                        presence(m);
+                    if (t.hasParts() && take(Scanner.K_OPTIONAL)) {
+                        m.optional = true;
+                    } else if (t.hasParts() && take(Scanner.K_DEFAULT)) {
+                        m.standardFrom = values.used;
+                        m.standard = value();
+                        m.standardTo = values.used;
+                        schema.addStandard(m);
                     }
                     t.members.add(m);
                     t.roots += t.open ? 0 : 1;
@@ -1389,17 +1398,6 @@ public final class SyntaxForge {
                 m.numbered = true;
                 m.number = signed();
                 need(')');
-            }
-        }
-
-        private void presence(Member m) {
-            if (take(Scanner.K_OPTIONAL)) {
-                m.optional = true;
-            } else if (take(Scanner.K_DEFAULT)) {
-                m.standardFrom = values.used;
-                m.standard = value();
-                m.standardTo = values.used;
-                schema.addStandard(m);
             }
         }
 
@@ -1424,7 +1422,7 @@ public final class SyntaxForge {
             label = -1;
             for (int turn = 0; turn <= scanner.count; turn++) {
                 Value v = values.make();
-                v.place = place();
+                v.place = at < scanner.count ? scanner.places[at] : tape.length;
                 v.name = label;
                 v.form = kind(0);
                 v.number = number();
@@ -1433,7 +1431,7 @@ public final class SyntaxForge {
                 } else {
                     root = v;
                 }
-                if (begins(v, depth)) {
+                if (v.form == '{' ? brace(v, depth) : begins(v, depth)) {
                     unended[depth] = v;
                     depth++;
                 } else {
@@ -1449,8 +1447,6 @@ public final class SyntaxForge {
         /** True if others are to stand in it, false if it is whole. */
         private boolean begins(Value v, int depth) {
             switch (v.form) {
-                case '{':
-                    return brace(v, depth);
                 case '-':
                     v.number = signed();
                     v.form = Scanner.NUMBER;
@@ -1979,33 +1975,18 @@ public final class SyntaxForge {
 
     /** Lengths, order and bytes by DER. */
     static final class Der {
-        private static final long NUMBER = (1L << 40) - 1;
-
         private Value[] row;
         private Value[] merged;
-        private long[] tags;
+        private int[] widths;
 
         Der() {
             row = new Value[16];
             merged = new Value[16];
-            tags = new long[16];
+            widths = new int[16];
         }
 
         static int lengthBytes(long n) {
             return n < 128 ? 1 : 1 + Bytes.eights(n);
-        }
-
-        static int identifierBytes(long tag) {
-            long n = tag & NUMBER;
-            return n < 31 ? 1 : 1 + Bytes.sevens(n);
-        }
-
-        static int identifierByte(long tag, boolean constructed, int i) {
-            long n = tag & NUMBER;
-            if (i == 0) {
-                return (int) (tag >> 40) << 6 | (constructed ? 32 : 0) | (int) Math.min(n, 31);
-            }
-            return Bytes.sevenOf(n, Bytes.sevens(n) - i);
         }
 
         /**
@@ -2036,7 +2017,11 @@ public final class SyntaxForge {
                     case Type.SEQUENCE_OF:
                     case Type.SET_OF:
                     case Type.CHOICE:
-                        contents = link(v, b);
+                        int n = gather(v);
+                        if (b.kind == Type.SET || b.kind == Type.SET_OF) {
+                            sort(n, b.kind == Type.SET);
+                        }
+                        contents = chain(v, n);
                         break;
                     default:
                         contents = v.size;
@@ -2052,36 +2037,38 @@ public final class SyntaxForge {
         private long wrapped(Type t, long contents) {
             int n = 0;
             for (Type cell = t.first >= 0 ? t : null; cell != null; cell = cell.rest) {
-                if (n >= tags.length) {
-                    tags = Arrays.copyOf(tags, 2 * n);
+                if (n >= widths.length) {
+                    widths = Arrays.copyOf(widths, 2 * n);
                 }
-                tags[n] = cell.first;
+                widths[n] = cell.identifierBytes;
                 n++;
             }
             long length = contents;
             for (int i = n - 1; i >= 0; i--) {
-                length += lengthBytes(length) + identifierBytes(tags[i]);
+                length += lengthBytes(length) + widths[i];
             }
             return length;
         }
 
-        private long link(Value v, Type b) {
+        /** Puts what stands in a VALUE, but for DEFAULTS, in the row, and answers how many. */
+        private int gather(Value v) {
             int n = 0;
-            long sum = 0;
             for (Value c = v.first; c != null; c = c.next) {
                 if (!c.dropped) {
                     makeRoom(n + 1);
                     row[n] = c;
                     n++;
-                    sum += c.length;
                 }
             }
-            if (b.kind == Type.SET || b.kind == Type.SET_OF) {
-                sort(n, b.kind == Type.SET);
-            }
+            return n;
+        }
+
+        private long chain(Value v, int n) {
+            long sum = 0;
             v.derFirst = n > 0 ? row[0] : null;
             for (int i = 0; i < n; i++) {
                 row[i].derNext = i + 1 < n ? row[i + 1] : null;
+                sum += row[i].length;
             }
             return sum;
         }
@@ -2103,7 +2090,9 @@ public final class SyntaxForge {
                     int i = from;
                     int k = half;
                     for (int at = from; at < to; at++) {
-                        boolean left = k >= to || i < half && !isAfter(row[i], row[k], byTag);
+                        boolean left = k >= to || i < half && (byTag
+                                ? outermost(row[i]).first <= outermost(row[k]).first
+                                : order(row[i], row[k]) <= 0);
                         merged[at] = left ? row[i] : row[k];
                         i += left ? 1 : 0;
                         k += left ? 0 : 1;
@@ -2115,17 +2104,13 @@ public final class SyntaxForge {
             }
         }
 
-        private boolean isAfter(Value a, Value b, boolean byTag) {
-            return byTag ? outermost(a).type.first > outermost(b).type.first : order(a, b) > 0;
-        }
-
         /** A CHOICE without tag begins with what is chosen. */
-        private Value outermost(Value start) {
+        private Type outermost(Value start) {
             Value v = start;
             while (v.type.first < 0 && v.first != null) {
                 v = v.first;
             }
-            return v;
+            return v.type;
         }
 
         /** As the bytes of two VALUES of one TYPE compare; where identifiers agree, a shorter one is less. */
@@ -2153,9 +2138,12 @@ public final class SyntaxForge {
         }
 
         private int orderData(Value a, Value b, boolean bits) {
-            int c = bits ? Integer.compare(a.unused(), b.unused()) : 0;
-            for (int i = 0; c == 0 && i < a.bytes() && i < b.bytes(); i++) {
-                c = Integer.compare(a.data(i), b.data(i));
+            int c = bits ? Integer.compare(-a.size & 7, -b.size & 7) : 0;
+            int n = bits ? (a.size + 7) / 8 : a.size;
+            byte[] x = a.home.data.at;
+            byte[] y = b.home.data.at;
+            for (int i = 0; c == 0 && i < n && a.from + i < x.length && b.from + i < y.length; i++) {
+                c = Integer.compare(x[a.from + i] & 255, y[b.from + i] & 255);
             }
             return c;
         }
@@ -2164,7 +2152,8 @@ public final class SyntaxForge {
             Value x = a.derFirst;
             Value y = b.derFirst;
             while (x != null && y != null) {
-                int c = x.member == y.member ? order(x, y) : orderTags(outermost(x).type, outermost(y).type);
+                int c = x.member == y.member ? order(x, y)
+                        : Long.compareUnsigned(outermost(x).identifier, outermost(y).identifier);
                 if (c != 0) {
                     return c;
                 }
@@ -2172,19 +2161,6 @@ public final class SyntaxForge {
                 y = y.derNext;
             }
             return x != null ? 1 : y != null ? -1 : 0;
-        }
-
-        private int orderTags(Type x, Type y) {
-            int c = 0;
-            for (int i = 0; c == 0 && i < identifierBytes(x.first) && i < identifierBytes(y.first); i++) {
-                c = Integer.compare(identifierByte(x.first, isConstructed(x, x), i),
-                        identifierByte(y.first, isConstructed(y, y), i));
-            }
-            return c;
-        }
-
-        private static boolean isConstructed(Type whole, Type cell) {
-            return cell.rest != null || whole.base.kind == Type.CHOICE || whole.base.isConstructed();
         }
 
         void write(Value root, Bytes out) {
@@ -2199,7 +2175,7 @@ public final class SyntaxForge {
             Type t = v.type;
             long length = v.length;
             for (Type cell = t.first >= 0 ? t : null; cell != null; cell = cell.rest) {
-                length = header(cell.first, isConstructed(t, cell), length, out);
+                length = header(cell, length, out);
             }
             switch (t.base.kind) {
                 case Type.BOOLEAN:
@@ -2235,13 +2211,13 @@ public final class SyntaxForge {
         }
 
         /** Answers the length of the contents; the given one is that of the whole. */
-        private long header(long tag, boolean constructed, long whole, Bytes out) {
-            int identifier = identifierBytes(tag);
-            for (int i = 0; i < identifier; i++) {
-                out.give(identifierByte(tag, constructed, i));
+        private long header(Type cell, long whole, Bytes out) {
+            for (int i = 0; i < cell.identifierBytes; i++) {
+                out.give((int) (cell.identifier >> 56 - 8 * i));
             }
-            long length = whole - identifier - 1;
-            for (int more = 1; more <= 8 && lengthBytes(length) != whole - identifier - length; more++) {
+            long rest = whole - cell.identifierBytes;
+            long length = rest - 1;
+            for (int i = 0; i < 8 && lengthBytes(length) != rest - length; i++) {
                 length--;
             }
             int bytes = lengthBytes(length) - 1;
@@ -2776,7 +2752,7 @@ public final class SyntaxForge {
                     : b.kind == Type.OCTETS || b.kind == Type.UTF8 || b.kind == Type.OBJECT ? 8 : 7;
             int done = 0;
             boolean going = true;
-            while (going) {
+            for (int turn = 0; going && turn < LONGEST; turn++) {
                 int n = told ? v.size : lengthOf(v.size - done);
                 going = !told && n >= FRAGMENT;
                 for (int to = done + n; done < to; done++) {
@@ -2798,7 +2774,7 @@ public final class SyntaxForge {
             int left = v.size;
             boolean going = true;
             Value c = v.first;
-            while (going) {
+            for (int turn = 0; going && turn < LONGEST; turn++) {
                 int n = told ? left : lengthOf(left);
                 going = !told && n >= FRAGMENT;
                 left -= n;
@@ -2844,7 +2820,7 @@ public final class SyntaxForge {
             bits(few ? n - 1 : 1, few ? 7 : 1);
             int i = b.roots;
             boolean going = true;
-            while (going) {
+            for (int turn = 0; going && turn < LONGEST; turn++) {
                 int now = few ? n : lengthOf(b.size() - i);
                 going = !few && now >= FRAGMENT;
                 for (int to = i + now; i < to && i < b.size(); i++) {
@@ -2863,7 +2839,7 @@ public final class SyntaxForge {
             int left = at / 8 - from;
             at = start;
             boolean going = true;
-            while (going) {
+            for (int turn = 0; going && turn < LONGEST; turn++) {
                 int n = lengthOf(left);
                 going = n >= FRAGMENT;
                 left -= n;
@@ -2884,6 +2860,8 @@ public final class SyntaxForge {
         private Bytes in;
         private int at;
         private int limit;
+        private int listed;
+        private int strange;
 
         PerReader(Values target) {
             values = target;
@@ -2907,12 +2885,14 @@ public final class SyntaxForge {
         }
 
         private long bits(int n) {
-            insist(n <= limit - at);
+            if (n > limit - at || limit > 8 * in.at.length) {
+                throw new UnsupportedOperationException();
+            }
             long r = 0;
             for (int left = n; left > 0;) {
                 int free = 8 - (at & 7);
                 int take = Math.min(free, left);
-                r = r << take | in.get(at >> 3) >> free - take & (1 << take) - 1;
+                r = r << take | (in.at[at >> 3] & 255) >> free - take & (1 << take) - 1;
                 at += take;
                 left -= take;
             }
@@ -2944,14 +2924,8 @@ public final class SyntaxForge {
             return k * FRAGMENT;
         }
 
-        private int oneLength() {
-            int n = lengthAfter(0);
-            insist(n < FRAGMENT);
-            return n;
-        }
-
         private long eights() {
-            int bytes = oneLength();
+            int bytes = lengthAfter(0);
             insist(bytes >= 1 && bytes <= 8);
             long n = bits(8 * bytes);
             insist(Bytes.eights(n) == bytes);
@@ -3017,7 +2991,7 @@ public final class SyntaxForge {
                 insist(Long.compareUnsigned(more, Long.MAX_VALUE - b.low) <= 0);
                 return b.low + more;
             }
-            int bytes = oneLength();
+            int bytes = lengthAfter(0);
             insist(bytes >= 1 && bytes <= 8);
             long n = bits(8 * bytes) << 64 - 8 * bytes >> 64 - 8 * bytes;
             insist(Bytes.signedEights(n) == bytes && b.within(n) != outside);
@@ -3048,7 +3022,7 @@ public final class SyntaxForge {
             int n = 0;
             v.from = values.data.length;
             boolean going = true;
-            while (going) {
+            for (int turn = 0; going && turn < LONGEST; turn++) {
                 n = told >= 0 ? told : lengthAfter(n);
                 going = told < 0 && n >= FRAGMENT;
                 units(b.kind, n);
@@ -3077,7 +3051,7 @@ public final class SyntaxForge {
             int told = size(b);
             int n = 0;
             boolean going = true;
-            while (going) {
+            for (int turn = 0; going && turn < LONGEST; turn++) {
                 n = told >= 0 ? told : lengthAfter(n);
                 going = told < 0 && n >= FRAGMENT;
                 for (int i = 0; i < n; i++) {
@@ -3111,45 +3085,48 @@ public final class SyntaxForge {
                 }
             }
             if (extended) {
-                extensions(v, b, depth);
+                int flags = extensionFlags(b);
+                int known = Math.min(listed, b.size() - b.roots);
+                int unknown = strange;
+                for (int i = 0; i < known; i++) {
+                    if (bitAt(flags + i)) {
+                        whole(v, b.members.get(b.roots + i), depth);
+                    }
+                }
+                for (int i = 0; i < unknown; i++) {
+                    at += 8 * wholeLength();
+                }
             }
         }
 
-        private void extensions(Value v, Type b, int depth) {
-            int known = b.size() - b.roots;
+        /** Answers where the bits of the known ones stand: never in more than the first FRAGMENTS. */
+        private int extensionFlags(Type b) {
             boolean few = bits(1) == 0;
+            boolean some = false;
             int flags = 0;
             int n = 0;
-            int all = 0;
-            int strange = 0;
-            boolean some = false;
+            listed = 0;
+            strange = 0;
             boolean going = true;
-            while (going) {
+            for (int turn = 0; going && turn < LONGEST; turn++) {
                 n = few ? (int) bits(6) + 1 : lengthAfter(n);
                 going = !few && n >= FRAGMENT;
-                flags = all == 0 ? at : flags;
+                flags = listed == 0 ? at : flags;
                 for (int i = 0; i < n; i++) {
                     boolean there = bits(1) == 1;
                     some = some || there;
-                    strange += there && all >= known ? 1 : 0;
-                    all++;
+                    strange += there && listed >= b.size() - b.roots ? 1 : 0;
+                    listed++;
                 }
             }
-            insist(some && (few || all > 64));
-            for (int i = 0; i < known && i < all; i++) {
-                if (bitAt(flags + i)) {
-                    whole(v, b.members.get(b.roots + i), depth);
-                }
-            }
-            for (int i = 0; i < strange; i++) {
-                at += 8 * wholeLength();
-            }
+            insist(some && (few || listed > 64));
+            return flags;
         }
 
         /** A whole one of more bytes than a LENGTH has without FRAGMENTS does not fit on what 512 calls feed. */
         private int wholeLength() {
-            int n = oneLength();
-            insist(n >= 1 && 8 * n <= limit - at);
+            int n = lengthAfter(0);
+            insist(n >= 1 && n < FRAGMENT && 8 * n <= limit - at);
             return n;
         }
 
