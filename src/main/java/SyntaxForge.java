@@ -3094,7 +3094,8 @@ public final class SyntaxForge {
                     }
                 }
                 for (int i = 0; i < unknown; i++) {
-                    at += 8 * wholeLength();
+                    int bytes = wholeLength();
+                    at += 8 * bytes;
                 }
             }
         }
