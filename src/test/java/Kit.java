@@ -59,7 +59,17 @@ final class Kit {
         try {
             return Long.toString(call.answer());
         } catch (RuntimeException e) {
-            return e.getClass().getSimpleName();
+            return e.getMessage() == null ? e.getClass().getSimpleName() : e.toString();
+        }
+    }
+
+    /** What is thrown, or nothing; what the machine throws has a message, what the class throws has none. */
+    static String thrown(Call call) {
+        try {
+            call.answer();
+            return "";
+        } catch (RuntimeException e) {
+            return e.getMessage() == null ? e.getClass().getSimpleName() : e.toString();
         }
     }
 
