@@ -2277,12 +2277,16 @@ public final class SyntaxForge {
             }
         }
 
-        /** An identifier at that depth and a length: at is then where the contents begin, stop where they end. */
-        private void header(int depth, int limit) {
+        private void identifier(int depth, int limit) {
             insist(depth < DEEPEST);
             int b = next(limit);
             constructed = (b & 32) != 0;
             tag = (long) (b >> 6) << 40 | ((b & 31) < 31 ? b & 31 : tagNumber(limit));
+        }
+
+        /** An identifier and a length: at is then where the contents begin, stop where they end. */
+        private void header(int depth, int limit) {
+            identifier(depth, limit);
             int n = next(limit);
             long length = n;
             if (n == 128) {
@@ -2325,7 +2329,7 @@ public final class SyntaxForge {
 
         private long peek(int depth) {
             int here = at;
-            header(depth, limits[depth]);
+            identifier(depth, limits[depth]);
             at = here;
             return tag;
         }

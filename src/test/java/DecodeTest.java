@@ -649,15 +649,17 @@ final class DecodeTest {
         text("", chain + "C40 ::= NULL");
         due(0, BER, list("30", "0500".repeat(2)), "{" + "c:".repeat(39) + "NULL, " + "c:".repeat(39) + "NULL}");
         due(0, BER, list("30", "0500".repeat(1638)), LONG);
-        due(0, BER, list("30", "0500".repeat(1638) + "0501"), NONE);
-        due(0, BER, list("30", "0500".repeat(1639) + "0501"), LONG);
-        due(0, DER, list("30", "0500".repeat(1639) + "0501"), LONG);
+        due(0, BER, list("30", "0500".repeat(1638) + "0100"), NONE);
+        due(0, BER, list("30", "0500".repeat(1638) + "0501"), LONG);
+        due(0, BER, list("30", "0500".repeat(1639) + "0100"), LONG);
+        due(0, DER, list("30", "0500".repeat(1639) + "0100"), LONG);
         String a = list("a1", list("30", "0500".repeat(1638)));
         String twice = "82008200";
         due(1, BER, list("31", a + list("a3", list("30", "0500".repeat(11))) + twice), NONE);
         due(1, BER, list("31", a + list("a3", list("30", "0500".repeat(12))) + twice), LONG);
         due(1, BER, list("31", a + list("a3", list("30", "0500".repeat(12))) + "8200" + "8400"), NONE);
-        due(1, BER, list("31", a + list("a3", list("30", "0500".repeat(12))) + "8200" + "82"), NONE);
+        due(1, BER, list("31", a + list("a3", list("30", "0500".repeat(12))) + "8200" + "82"), LONG);
+        due(1, BER, list("31", a + list("a3", list("30", "0500".repeat(12))) + "8200" + "9f"), NONE);
     }
 
     private static String list(String identifier, String contents) {
