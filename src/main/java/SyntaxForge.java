@@ -1311,16 +1311,17 @@ public final class SyntaxForge {
                 t.floor = true;
                 t.low = signed();
             }
+            endBounds(t);
+        }
+
+        /** What RANGE and SIZE have behind their first number; only in RANGE one may be below 0. */
+        private void endBounds(Type t) {
             t.ceiling = true;
             t.high = t.low;
             if (take(Scanner.UPTO)) {
                 t.ceiling = !take(Scanner.K_MAX);
-                t.high = t.ceiling ? signed() : 0;
+                t.high = !t.ceiling ? 0 : t.kind == Type.INTEGER ? signed() : need(Scanner.NUMBER);
             }
-            endBounds(t);
-        }
-
-        private void endBounds(Type t) {
             if (take(',')) {
                 need(Scanner.DOTS);
                 t.open = true;
@@ -1346,12 +1347,6 @@ public final class SyntaxForge {
             need('(');
             t.floor = true;
             t.low = need(Scanner.NUMBER);
-            t.ceiling = true;
-            t.high = t.low;
-            if (take(Scanner.UPTO)) {
-                t.ceiling = !take(Scanner.K_MAX);
-                t.high = t.ceiling ? need(Scanner.NUMBER) : 0;
-            }
             endBounds(t);
         }
 
@@ -2307,10 +2302,12 @@ public final class SyntaxForge {
         }
 
         private int next(int limit) {
-            insist(at < limit);
-            int b = in.get(at);
+            if (at >= limit || at >= in.at.length) {
+                throw new UnsupportedOperationException();
+            }
+            int b = in.at[at] & 255;
             at++;
-            return Math.max(b, 0);
+            return b;
         }
 
         private long tagNumber(int limit) {

@@ -135,6 +135,7 @@ final class ReadTest {
         broken("A ::= OCTET STRING (SIZE 1)", 25);
         broken("A ::= OCTET STRING (SIZE (-1))", 26);
         broken("A ::= OCTET STRING (SIZE (MIN..1))", 26);
+        broken("A ::= OCTET STRING (SIZE (1..-1))", 29);
         broken("A ::= OCTET STRING (SIZE (1)", 29);
         sound("A ::= OCTET STRING (SIZE (1)) B ::= BIT STRING (SIZE (1..MAX, ...)) C ::= IA5String (SIZE (1..2))");
         broken("A ::= UTF8String (SIZE (1))", 17);
