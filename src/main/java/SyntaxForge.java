@@ -1320,7 +1320,9 @@ public final class SyntaxForge {
             t.high = t.low;
             if (take(Scanner.UPTO)) {
                 t.ceiling = !take(Scanner.K_MAX);
-                t.high = !t.ceiling ? 0 : t.kind == Type.INTEGER ? signed() : need(Scanner.NUMBER);
+                boolean minus = t.ceiling && t.kind == Type.INTEGER && take('-');
+                long n = t.ceiling ? need(Scanner.NUMBER) : 0;
+                t.high = minus ? -n : n;
             }
             if (take(',')) {
                 need(Scanner.DOTS);
