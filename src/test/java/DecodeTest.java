@@ -31,6 +31,7 @@ final class DecodeTest {
         perBits();
         tooLong();
         tooMany();
+        olderTypes();
         Kit.finish();
     }
 
@@ -660,6 +661,29 @@ final class DecodeTest {
         due(1, BER, list("31", a + list("a3", list("30", "0500".repeat(12))) + "8200" + "8400"), NONE);
         due(1, BER, list("31", a + list("a3", list("30", "0500".repeat(12))) + "8200" + "82"), LONG);
         due(1, BER, list("31", a + list("a3", list("30", "0500".repeat(12))) + "8200" + "9f"), NONE);
+    }
+
+    /** What a newer TYPE encodes, an older one reads, but for what it does not know. */
+    private static void olderTypes() {
+        text("AUTOMATIC TAGS ", "Old ::= SEQUENCE {a INTEGER, ..., b BOOLEAN} "
+                + "New ::= SEQUENCE {a INTEGER, ..., b BOOLEAN, c OCTET STRING, d SEQUENCE OF New, e NULL} "
+                + "Olds ::= SEQUENCE OF Old News ::= SEQUENCE OF New");
+        String[] rests = {"", ", c 'AABB'H", ", d {}", ", d {{a 7, c ''H}, {a 8, b TRUE}}", ", c '01'H, d {{a 1}}, e NULL", ", e NULL"};
+        StringBuilder news = new StringBuilder();
+        StringBuilder olds = new StringBuilder();
+        for (String known : new String[] {"a 5", "a -300, b TRUE"}) {
+            for (String rest : rests) {
+                String value = "{" + known + rest + "}";
+                due(0, DER, Kit.encode(forge, 1, DER, value), "{" + known + "}");
+                due(0, BER, Kit.encode(forge, 1, DER, value), "{" + known + "}");
+                due(0, PER, Kit.encode(forge, 1, PER, value), "{" + known + "}");
+                due(1, PER, Kit.encode(forge, 0, PER, "{" + known + "}"), "{" + known + "}");
+                news.append(news.length() == 0 ? "{" : ", ").append(value);
+                olds.append(olds.length() == 0 ? "{" : ", ").append("{").append(known).append("}");
+            }
+        }
+        due(2, DER, Kit.encode(forge, 3, DER, news + "}"), olds + "}");
+        due(2, PER, Kit.encode(forge, 3, PER, news + "}"), olds + "}");
     }
 
     private static String list(String identifier, String contents) {
