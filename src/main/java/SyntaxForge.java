@@ -2385,6 +2385,8 @@ public final class SyntaxForge {
                 header(inside, limits[inside]);
                 insist(tag == cell.first);
                 inside = enter(inside);
+                // Two bytes 0 end it here, even where they could be read as the VALUE in it.
+                insist(hasMore(inside));
                 cell = cell.rest;
             }
             if (choice) {

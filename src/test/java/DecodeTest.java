@@ -14,6 +14,7 @@ final class DecodeTest {
     public static void main(String[] args) {
         simple();
         headers();
+        endMarks();
         strings();
         sequences();
         sets();
@@ -152,6 +153,41 @@ final class DecodeTest {
         none(3, "a10402010500");
         none(3, "a1060201050201" + "05");
         none(3, "a103020205");
+    }
+
+    /** Two bytes 0 where a VALUE would begin end what has the length 128 alone, also where they could be the VALUE. */
+    private static void endMarks() {
+        text("", "A ::= [1] EXPLICIT B B ::= [UNIVERSAL 0] IMPLICIT NULL C ::= [1] CHOICE {a [UNIVERSAL 0] IMPLICIT NULL} "
+                + "D ::= [2] EXPLICIT A E ::= [3] CHOICE {b CHOICE {c B, d [4] B}} F ::= SEQUENCE OF B "
+                + "G ::= SEQUENCE {a B OPTIONAL, ...} H ::= [1] EXPLICIT I I ::= [UNIVERSAL 0] IMPLICIT OCTET STRING");
+        both(0, "a1020000", "NULL");
+        due(0, BER, "a18000000000", NONE);
+        due(0, BER, "a1800000", NONE);
+        onlyBer(0, "a1800081000000", "NULL");
+        due(0, BER, "a18000", NONE);
+        both(1, "0000", "NULL");
+        both(2, "a1020000", "a:NULL");
+        due(2, BER, "a18000000000", NONE);
+        due(2, BER, "a1800000", NONE);
+        onlyBer(2, "a1800081000000", "a:NULL");
+        both(3, "a204a1020000", "NULL");
+        onlyBer(3, "a280a10200000000", "NULL");
+        due(3, BER, "a206a18000000000", NONE);
+        due(3, BER, "a280a180000000000000", NONE);
+        due(3, BER, "a28000000000", NONE);
+        both(4, "a3020000", "b:c:NULL");
+        due(4, BER, "a38000000000", NONE);
+        onlyBer(4, "a380a40200000000", "b:d:NULL");
+        due(4, BER, "a380a480000000000000", NONE);
+        both(5, "300400000000", "{NULL, NULL}");
+        onlyBer(5, "30800000", "{}");
+        due(5, BER, "308000000000", NONE);
+        both(6, "30020000", "{a NULL}");
+        onlyBer(6, "30800000", "{}");
+        due(6, BER, "308000000000", NONE);
+        onlyBer(7, "a1800001aa0000", "'AA'H");
+        due(7, BER, "a18000000000", NONE);
+        onlyBer(7, "a180208000000000", "''H");
     }
 
     private static void strings() {
