@@ -4,6 +4,7 @@ import java.nio.charset.StandardCharsets;
 final class Kit {
     private static int wrong;
     private static int asked;
+    private static String sentence = "";
 
     interface Call {
         long answer();
@@ -48,8 +49,11 @@ final class Kit {
 
     static byte[] result(SyntaxForge forge) {
         byte[] bytes = new byte[forge.count(1)];
-        for (int i = 0; i < bytes.length; i++) {
-            bytes[i] = (byte) (forge.word(i) >>> 56);
+        for (int i = 0; i < bytes.length; i += 8) {
+            long word = forge.word(i);
+            for (int k = i; k < i + 8 && k < bytes.length; k++) {
+                bytes[k] = (byte) (word >>> 8 * (i + 7 - k));
+            }
         }
         return bytes;
     }
@@ -98,11 +102,23 @@ final class Kit {
         return answer;
     }
 
+    /** The words of the document that the answers from now on hang on; they are printed with a wrong one. */
+    static void sentence(String words) {
+        sentence = words;
+    }
+
+    /** Long texts are cut, so that what is printed can be read. */
+    static String shown(Object text) {
+        String whole = String.valueOf(text);
+        return whole.length() > 240 ? whole.substring(0, 240) + ".. (" + whole.length() + ")" : whole;
+    }
+
     static void due(String what, Object got, Object want) {
         asked++;
         if (!want.equals(got)) {
             wrong++;
-            System.out.println(what + ": answered " + got + ", due is " + want);
+            System.out.println(what + ": answered " + shown(got) + ", due is " + shown(want)
+                    + (sentence.isEmpty() ? "" : " [" + sentence + "]"));
         }
     }
 
