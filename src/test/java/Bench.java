@@ -50,21 +50,49 @@ final class Bench {
     void encode(int t, int codec, String value, String want) {
         SyntaxForge forge = ready();
         String what = "encode(" + t + ", " + codec + ") of " + Kit.shown(value);
-        String got = Kit.encode(forge, t, codec, value);
-        Kit.due(what, got, want);
+        Kit.lay(forge, Kit.ascii(value));
+        String answer = Kit.ask(() -> forge.encode(t, codec));
+        String got = forge.count(3) < 0 ? answer : answer + "@" + forge.count(3);
         boolean refused = want.startsWith(NONE) || want.equals(LONG);
-        leavesAlone(forge, what, refused);
-        if (!want.startsWith(NONE)) {
-            Kit.due(what + " tells no PLACE", forge.count(3), -1);
+        if (refused) {
+            Kit.due(what, got, want);
+        } else {
+            resultIs(forge, what, got, Kit.hex(want));
         }
+        leavesAlone(forge, what, refused);
+    }
+
+    /** Of a long RESULT some words are looked at alone, so that the calls stay below 512. */
+    private static void resultIs(SyntaxForge forge, String what, String answer, byte[] want) {
+        Kit.due(what + " answers how many", answer, Integer.toString(want.length));
+        Kit.due(what + ": count(1)", forge.count(1), want.length);
+        int words = (want.length + 7) / 8;
+        for (int i = 0; i < words; i++) {
+            if (words <= 30 || i < 10 || i >= words - 10 || i % (words / 8) == 0) {
+                long due = 0;
+                for (int k = 8 * i; k < 8 * i + 8; k++) {
+                    due = due << 8 | (k < want.length ? want[k] & 255 : 0);
+                }
+                int at = 8 * i;
+                Kit.due(what + ": word(" + at + ")", Kit.ask(() -> forge.word(at)), Long.toString(due));
+            }
+        }
+        Kit.due(what + ": no byte behind", Kit.ask(() -> forge.word(want.length)), LONG);
     }
 
     /** Wanted is the VALUE as PRINTED, LONG or NONE. */
     void decode(int t, int codec, String hex, String want) {
         SyntaxForge forge = ready();
         String what = "decode(" + t + ", " + codec + ") of " + Kit.shown(hex);
-        Kit.due(what, Kit.decode(forge, t, codec, Kit.hex(hex)), want);
-        leavesAlone(forge, what, want.equals(NONE) || want.equals(LONG));
+        Kit.lay(forge, Kit.hex(hex));
+        String answer = Kit.ask(() -> forge.decode(t, codec));
+        boolean refused = want.equals(NONE) || want.equals(LONG);
+        if (refused) {
+            Kit.due(what, answer, want);
+        } else {
+            resultIs(forge, what + ", PRINTED as " + Kit.shown(want), answer, Kit.ascii(want));
+        }
+        leavesAlone(forge, what, refused);
         Kit.due(what + " leaves PLACE", forge.count(3), PLACE_BEFORE);
     }
 

@@ -370,8 +370,10 @@ final class BerEdgeTest {
         bench.der(0, "{2 48 128}", "060481008100");
         bench.der(0, "{2 9223372036854775727}", "0609ffffffffffffffff7f");
         bench.der(0, "{1 2 9223372036854775807}", "060a2affffffffffffffff7f");
+        bench.der(0, "{1 2 16384 5}", "06052a81800005");
+        bench.der(0, "{2 16304 2097152}", "0607818000" + "81808000");
         for (String wrong : new String[] {"0600", "060180", "06028000", "06028001", "060181", "06022a80", "06032a8000", "06032a8001", "06032a8181",
-            "060a81808080808080808000", "060b2a81808080808080808000", "060b2affffffffffffffffff7f", "060c2a" + "81" + "80".repeat(8) + "00" + "05"}) {
+            "06032a8180", "060a81808080808080808000", "060b2a81808080808080808000", "060b2affffffffffffffffff7f", "060c2a" + "81" + "80".repeat(8) + "00" + "05"}) {
             bench.noBer(0, wrong);
         }
     }
@@ -393,6 +395,15 @@ final class BerEdgeTest {
         bench.noBer(1, "a2020500");
         bench.noBer(1, "a205a1020500" + "00");
         bench.noBer(1, "a1020500");
+        Bench rows = new Bench("A ::= SEQUENCE {a [1] EXPLICIT NULL, b NULL} B ::= SEQUENCE {a [1] CHOICE {x NULL}, b NULL} C ::= SEQUENCE OF NULL D ::= SEQUENCE OF BOOLEAN");
+        rows.noBer(0, "3006" + "a104" + "0500" + "0500");
+        rows.noBer(1, "3006" + "a104" + "0500" + "0500");
+        rows.decode(0, BER, "3080" + "a180" + "0500" + "0000" + "0500" + "0000", "{a NULL, b NULL}");
+        rows.noBer(0, "3080" + "a180" + "0500" + "0500" + "0000" + "0000");
+        Kit.sentence("BER: a VALUE is identifier, length, contents: what is more in them is no VALUE behind");
+        rows.noBer(2, "3004" + "0502" + "0500");
+        rows.noBer(3, "3006" + "0104" + "ff" + "0101ff");
+        Kit.sentence("EXPLICIT: constructed, the VALUE in it.");
         bench.der(2, "a:NULL", "a3020500");
         bench.noBer(2, "83020500");
         bench.noBer(2, "a300");
@@ -531,6 +542,9 @@ final class BerEdgeTest {
         bench.onlyBer(0, "310a" + "0500" + "4900" + "8000" + "c000" + "8100", "{a NULL, b NULL, c NULL, d NULL, e NULL}");
         bench.der(1, "{a NULL, b {}, c NULL}", "3107" + "8200" + "be00" + "9f1f00");
         bench.onlyBer(1, "3107" + "8200" + "9f1f00" + "be00", "{a NULL, b {}, c NULL}");
+        Bench zero = new Bench("A ::= SET {a BOOLEAN, b [UNIVERSAL 0] IMPLICIT SEQUENCE {x [5] NULL}}");
+        zero.der(0, "{a TRUE, b {x NULL}}", "3109" + "2004a5020500" + "0101ff");
+        zero.onlyBer(0, "3109" + "0101ff" + "2004a5020500", "{a TRUE, b {x NULL}}");
         bench.der(2, "{a x:NULL, b NULL}", "3104" + "8300" + "8500");
         bench.der(2, "{a y:NULL, b NULL}", "3104" + "8100" + "8300");
         bench.onlyBer(2, "3104" + "8500" + "8300", "{a x:NULL, b NULL}");
@@ -547,12 +561,44 @@ final class BerEdgeTest {
         bench.onlyBer(0, "3106" + "0401ff" + "04017f", "{'FF'H, '7F'H}");
         bench.onlyBer(0, "3105" + "040100" + "0400", "{'00'H, ''H}");
         bench.onlyBer(0, "3107" + "04020000" + "0401ff", "{'0000'H, 'FF'H}");
+        Kit.sentence("DER: .. those of a SET OF as their bytes rise: each behind the one before it");
+        bench.onlyBer(0, "3109" + "040101" + "040103" + "040102", "{'01'H, '03'H, '02'H}");
+        bench.der(0, "{'01'H, '02'H, '03'H}", "3109" + "040101" + "040102" + "040103");
+        manyOfASet();
+        Kit.sentence("DER: .. those of a SET OF as their bytes rise (shorter ones with 0 behind).");
         bench.der(1, "{c:5, a:NULL, b:{}}", "3109" + "020105" + "0500" + "a0023000");
         bench.onlyBer(1, "3109" + "0500" + "020105" + "a0023000", "{a:NULL, c:5, b:{}}");
         Kit.sentence("SEQUENCE OF and PER leave the order as it is");
         Bench sequence = new Bench("A ::= SEQUENCE OF INTEGER B ::= SET OF INTEGER");
         sequence.der(0, "{2, 1}", "3006" + "020102" + "020101");
         sequence.per(1, "{2, 1}", "02" + "0102" + "0101");
+    }
+
+    /** More than fit in any row that is made ahead, the greatest first. */
+    private static void manyOfASet() {
+        Bench bench = new Bench("A ::= SET OF INTEGER (0..999) B ::= SET OF BIT STRING C ::= SET OF [UNIVERSAL 0] IMPLICIT OCTET STRING D ::= SET OF SEQUENCE OF INTEGER "
+                + "E ::= SET OF CHOICE {x [UNIVERSAL 0] IMPLICIT OCTET STRING, y BOOLEAN}");
+        for (int n : new int[] {2, 3, 15, 16, 17, 31, 32, 33, 34, 65, 100}) {
+            StringBuilder value = new StringBuilder("{");
+            StringBuilder rising = new StringBuilder("{");
+            StringBuilder der = new StringBuilder();
+            for (int i = 0; i < n; i++) {
+                value.append(i == 0 ? "" : ", ").append(n - 1 - i);
+                rising.append(i == 0 ? "" : ", ").append(i);
+                der.append(String.format("0201%02x", i));
+            }
+            int length = 3 * n;
+            String head = "31" + (length < 128 ? "" : length < 256 ? "81" : "82") + String.format(length < 256 ? "%02x" : "%04x", length);
+            bench.encode(0, DER, value + "}", head + der);
+            bench.decode(0, DER, head + der, rising + "}");
+            bench.decode(0, BER, head + der, rising + "}");
+        }
+        bench.encode(1, DER, "{'1011'B, '1010'B, '0111'B, '1111111111'B, '1111111101'B}",
+                "3116" + "03020470" + "030204a0" + "030204b0" + "030306ff40" + "030306ffc0");
+        bench.encode(2, DER, "{'05'H, '01'H, '0000'H, ''H}", "310c" + "0000" + "000101" + "000105" + "00020000");
+        bench.encode(3, DER, "{{5}, {1, 1}, {}, {4}, {1, 0}, {300}}",
+                "3122" + "3000" + "3003020104" + "3003020105" + "30040202012c" + "3006020101020100" + "3006020101020101");
+        bench.encode(4, DER, "{y : TRUE, x : '05'H, x : '01'H, y : FALSE, x : '0000'H}", "3110" + "000101" + "000105" + "00020000" + "010100" + "0101ff");
     }
 
     private static void moreBehind() {
@@ -731,6 +777,9 @@ final class BerEdgeTest {
         bench.decode(0, BER, contents("30", full + "02"), NONE);
         bench.decode(0, BER, contents("30", full + "9f"), NONE);
         bench.decode(0, BER, contents("30", full + "25"), LONG);
+        Bench far = many("SEQUENCE {l L, n [129] IMPLICIT NULL OPTIONAL}");
+        far.decode(0, BER, contents("30", full + "9f8101"), LONG);
+        far.decode(0, BER, contents("30", full + "9f81"), NONE);
         Bench chosen = many("SEQUENCE {l L, c [0] CHOICE {n NULL, b BOOLEAN}}");
         String two = listOf(65533);
         chosen.decode(0, BER, contents("30", two + "a0020500"), "{l " + printedListOf(65533) + ", c n:NULL}");

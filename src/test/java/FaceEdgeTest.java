@@ -27,6 +27,7 @@ final class FaceEdgeTest {
         orderWithText();
         typesInRange();
         resultStays();
+        allOf512Calls();
         Kit.finish();
     }
 
@@ -356,6 +357,39 @@ final class FaceEdgeTest {
             Kit.due("encode(" + t + ", 0)", Kit.ask(() -> forge.encode(t, 0)), Bench.BAD_NUMBER);
             Kit.due("decode(" + t + ", 0)", Kit.ask(() -> forge.decode(t, 0)), Bench.BAD_NUMBER);
         }
+    }
+
+    private static void allOf512Calls() {
+        Kit.sentence("An object is used for at most 512 calls after it has been made");
+        SyntaxForge forge = new SyntaxForge();
+        byte[] text = Kit.ascii("M DEFINITIONS ::= BEGIN O ::= OCTET STRING END");
+        int calls = 0;
+        for (int i = 0; i < text.length; i += 20) {
+            int[] five = new int[5];
+            for (int k = 0; k < 20 && i + k < text.length; k++) {
+                five[k / 4] |= text[i + k] << 8 * (3 - k % 4);
+            }
+            Kit.due("feed", forge.feed(five[0], five[1], five[2], five[3], five[4]), i + 20);
+            calls++;
+        }
+        Kit.due("end", forge.end(text.length), text.length);
+        Kit.due("read", forge.read(), 1);
+        calls += 2;
+        while (calls <= 512 - 4 - 4) {
+            Kit.due("feed", forge.feed(0x0401AB00, 0, 0, 0, 0), 20);
+            Kit.due("end", forge.end(3), 3);
+            Kit.due("decode", forge.decode(0, 2), 5);
+            Kit.due("word", forge.word(0), 0x2741422748000000L);
+            calls += 4;
+        }
+        while (calls < 512 - 4) {
+            Kit.due("count", forge.count(0), 0);
+            calls++;
+        }
+        Kit.due("feed", forge.feed(0x0402AB00, 0, 0, 0, 0), 20);
+        Kit.due("end", forge.end(4), 4);
+        Kit.due("decode", forge.decode(0, 0), 7);
+        Kit.due("call " + (calls + 4), forge.word(0), 0x2741423030274800L);
     }
 
     private static void resultStays() {

@@ -154,6 +154,14 @@ final class PerEdgeTest {
             bench.noPer(0, head + "8008ff");
             bench.noPer(0, head + "c0");
         }
+        Bench zeros = new Bench("A ::= SEQUENCE OF INTEGER (0)");
+        zeros.decode(0, PER, "c100", "{" + "0, ".repeat(16383) + "0}");
+        zeros.decode(0, PER, "c102", "{" + "0, ".repeat(16385) + "0}");
+        zeros.decode(0, PER, "c18080", "{" + "0, ".repeat(16384 + 127) + "0}");
+        zeros.noPer(0, "c1");
+        zeros.noPer(0, "c10000");
+        zeros.noPer(0, "c1c100");
+        zeros.decode(0, PER, "c200", LONG);
         bench.noPer(0, "c1" + "f5".repeat(2048) + "c1" + "f5".repeat(2048) + "00");
         bench.noPer(0, "c3" + "f5".repeat(6144) + "c1" + "f5".repeat(2048) + "00");
         bench.noPer(0, "c1" + "f5".repeat(2047) + "00");
@@ -177,6 +185,13 @@ final class PerEdgeTest {
             String rest = lengthed(n - 2048 * k);
             Kit.due(n + " bytes", per, heads[i] + "f5".repeat(2048 * k) + rest);
             Kit.due(n + " bytes", Kit.decode(forge, 0, PER, Kit.hex(per)), "'" + "F5".repeat(n) + "'H");
+        }
+        Kit.read(forge, "M DEFINITIONS ::= BEGIN A ::= SEQUENCE OF INTEGER (0..1) END");
+        for (int n : new int[] {16383, 16384, 16385, 16384 + 128}) {
+            String per = Kit.encode(forge, 0, PER, "{" + "1,".repeat(n - 1) + "1}");
+            String rest = n < 16384 ? "" : n - 16384 < 128 ? binary(n - 16384, 8) : "10" + binary(n - 16384, 14);
+            Kit.due(n + " VALUES", per, n < 16384 ? bits("10" + binary(n, 14) + "1".repeat(n))
+                    : bits("11000001" + "1".repeat(16384) + rest + "1".repeat(n - 16384)));
         }
     }
 
@@ -605,6 +620,8 @@ final class PerEdgeTest {
             String count = n <= 64 ? "0" + binary(n - 1, 6) : "1" + (n < 128 ? binary(n, 8) : "10" + binary(n, 14));
             bench.per(0, "{" + nth(n - 1) + " NULL}", bits("1" + count + "0".repeat(n - 1) + "1" + "00000001 00000000"));
             bench.per(0, "{" + nth(0) + " NULL}", bits("1" + count + "1" + "0".repeat(n - 1) + "00000001 00000000"));
+            Bench behind = new Bench(AUTOMATIC, many("A ::= SEQUENCE {r BOOLEAN, s BOOLEAN OPTIONAL, ...", n, " NULL"));
+            behind.per(0, "{r TRUE, " + nth(n - 1) + " NULL}", bits("1 0 1" + count + "0".repeat(n - 1) + "1" + "00000001 00000000"));
         }
         Bench bench = new Bench("A ::= SEQUENCE {...}");
         Kit.sentence("above 63: a 1 and LENGTH how many (not below)");

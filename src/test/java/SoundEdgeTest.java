@@ -13,6 +13,7 @@ final class SoundEdgeTest {
         assignedOnce();
         usedAreAssigned();
         differentIds();
+        manyIds();
         numbersOfItems();
         numbersOfExtensions();
         greatestNumbers();
@@ -31,6 +32,7 @@ final class SoundEdgeTest {
         defaultsWait();
         defaultsAreEqualByDer();
         defaultsOfRanges();
+        defaultsThere();
         syntaxBeforeSound();
         theTextFromNowOn();
         Kit.finish();
@@ -77,6 +79,34 @@ final class SoundEdgeTest {
         Bench.unsound("A ::= ENUMERATED {a, ..., a}");
         Bench.unsound("A ::= ENUMERATED {b, ..., a, a}");
         Bench.sound("A ::= ENUMERATED {a, b} B ::= ENUMERATED {a, b}");
+    }
+
+    /** All IDS of two letters, so that many agree but for one of them. */
+    private static void manyIds() {
+        Kit.sentence("IDS of one { } are different");
+        StringBuilder text = new StringBuilder("A::=ENUMERATED{");
+        for (int i = 0; i < 26 * 26; i++) {
+            text.append(i == 0 ? "" : ",").append((char) ('a' + i / 26)).append((char) ('a' + i % 26));
+        }
+        Bench bench = new Bench(text + "}");
+        for (int i = 0; i < 26 * 26; i += 7) {
+            String name = "" + (char) ('a' + i / 26) + (char) ('a' + i % 26);
+            String der = i < 128 ? String.format("0a01%02x", i) : String.format("0a02%04x", i);
+            SyntaxForge forge = bench.ready();
+            Kit.due("item " + name, Kit.encode(forge, 0, 0, name), der);
+            Kit.due("item " + name, Kit.decode(forge, 0, 0, Kit.hex(der)), name);
+        }
+        for (String again : new String[] {"aa", "az", "za", "zz", "mn"}) {
+            Bench.unsound(text + "," + again + "}");
+        }
+        for (String tail : new String[] {"", "0", "B", "aa", "b7", "bc1", "name", "x-y-z", "eleven-more", "aaaaaaaaaaaaaaaaaaaa"}) {
+            StringBuilder ids = new StringBuilder();
+            for (char c = 'a'; c <= 'z'; c++) {
+                ids.append(c == 'a' ? "" : ", ").append(c).append(tail);
+            }
+            Bench.sound("A ::= ENUMERATED {" + ids + "}");
+            Bench.unsound("A ::= ENUMERATED {" + ids + ", q" + tail + "}");
+        }
     }
 
     private static void items(String items, String... derByItem) {
@@ -197,6 +227,8 @@ final class SoundEdgeTest {
         Bench.sound("A ::= CHOICE {a NULL, b B} B ::= CHOICE {c [0] A, d BOOLEAN}");
         Bench.sound("A ::= CHOICE {a SEQUENCE OF A, b SET {c A}}");
         Bench.sound("A ::= CHOICE {a B} B ::= CHOICE {b C} C ::= CHOICE {c D} D ::= NULL");
+        Bench.sound("D ::= NULL C ::= CHOICE {c D} B ::= CHOICE {b C} A ::= CHOICE {a B}");
+        Bench.sound("A ::= CHOICE {a [UNIVERSAL 0] NULL} B ::= CHOICE {b A} C ::= CHOICE {c B}");
         Bench.sound(AUTOMATIC, "A ::= CHOICE {a A}");
         Bench.unsound(AUTOMATIC, "A ::= CHOICE {a A, b [0] NULL}");
         Bench.unsound(IMPLICIT, "A ::= CHOICE {a A, b NULL}");
@@ -296,6 +328,9 @@ final class SoundEdgeTest {
         Bench.unsound("A ::= CHOICE {a [0] NULL, b B} B ::= [0] CHOICE {c NULL}");
         Bench.sound("A ::= CHOICE {a [0] NULL, b [1] NULL} B ::= CHOICE {a [0] NULL, b [1] NULL}");
         Bench.unsound("A ::= SEQUENCE OF CHOICE {a NULL, b NULL}");
+        Bench.unsound("A ::= CHOICE {a [UNIVERSAL 0] NULL, b [UNIVERSAL 0] BOOLEAN}");
+        Bench.unsound("A ::= CHOICE {a [UNIVERSAL 0] NULL, b CHOICE {c NULL, d [UNIVERSAL 0] BOOLEAN}}");
+        Bench.sound("A ::= CHOICE {a [UNIVERSAL 0] NULL, b [APPLICATION 0] BOOLEAN, c [0] NULL}");
     }
 
     private static void tagsOfSets() {
@@ -307,6 +342,7 @@ final class SoundEdgeTest {
         Bench.unsound("A ::= SET {a CHOICE {x NULL}, b CHOICE {c BOOLEAN, d NULL}}");
         Bench.unsound("A ::= SET {a NULL, ..., b NULL}");
         Bench.unsound("A ::= SET {..., a NULL, b NULL}");
+        Bench.unsound("A ::= SET {a [UNIVERSAL 0] NULL, b [UNIVERSAL 0] BOOLEAN}");
     }
 
     private static void tagsOfSequences() {
@@ -325,6 +361,7 @@ final class SoundEdgeTest {
         }
         Bench.unsound("A ::= SEQUENCE {a CHOICE {x BOOLEAN, y NULL} OPTIONAL, b CHOICE {c INTEGER, d NULL}}");
         Bench.sound("A ::= SEQUENCE {a CHOICE {x BOOLEAN, y NULL}, b CHOICE {c INTEGER, d NULL}}");
+        Bench.unsound("A ::= SEQUENCE {a [UNIVERSAL 0] NULL OPTIONAL, b [UNIVERSAL 0] NULL}");
     }
 
     private static void tagsOfExtensions() {
@@ -432,6 +469,40 @@ final class SoundEdgeTest {
         Kit.sentence("PER is decoded as it is encoded, but: a DEFAULT may be there");
         bench.decode(0, 1, "58", "{}");
         bench.decode(0, 1, "80405800", "{}");
+    }
+
+    /** What the PART without DEFAULT has as bytes, the PART with it has too, where it is there. */
+    private static void defaultsThere() {
+        Kit.sentence("one that is there is it if its DER is the same .. BER: A DEFAULT may be there .. PER: a DEFAULT may be there");
+        String[][] cases = {{"BOOLEAN", "TRUE", "FALSE"}, {"BOOLEAN", "FALSE", "TRUE"}, {"INTEGER", "-5", "5"}, {"INTEGER (0..7)", "5", "4"},
+            {"INTEGER (0..7, ...)", "9", "5"}, {"INTEGER (5..MAX)", "300", "301"}, {"ENUMERATED {x, y(300), ..., z}", "y", "x"},
+            {"ENUMERATED {x, y(300), ..., z}", "z", "y"}, {"BIT STRING", "'1011'B", "'1010'B"}, {"BIT STRING", "'A5C'H", "'A5D'H"},
+            {"BIT STRING (SIZE (9))", "'111111110'B", "'111111111'B"}, {"BIT STRING", "''B", "'0'B"}, {"OCTET STRING", "'A5C0'H", "'A5C1'H"},
+            {"OBJECT IDENTIFIER", "{1 2 3}", "{1 2 4}"}, {"UTF8String", "\"abc\"", "\"abd\""}, {"NumericString", "\"0 9\"", "\"0 8\""},
+            {"IA5String (SIZE (3))", "\"abc\"", "\"abb\""}, {"SEQUENCE OF INTEGER", "{1, 2}", "{2, 1}"}, {"SEQUENCE OF NULL", "{}", "{NULL}"},
+            {"CHOICE {x NULL, y [0] BOOLEAN, ..., z [1] INTEGER}", "y:TRUE", "y:FALSE"}, {"CHOICE {x NULL, y [0] BOOLEAN, ..., z [1] INTEGER}", "z:7", "x:NULL"},
+            {"SEQUENCE {x BOOLEAN OPTIONAL, y INTEGER}", "{y 5}", "{x TRUE, y 5}"}, {"SET {x BOOLEAN, y INTEGER, ..., z NULL}", "{x TRUE, y 5, z NULL}", "{x TRUE, y 5}"}};
+        for (String[] c : cases) {
+            Bench bench = new Bench("A ::= SEQUENCE {a " + c[0] + " DEFAULT " + c[1] + "} B ::= SEQUENCE {a " + c[0] + " OPTIONAL} C ::= SEQUENCE {..., a "
+                    + c[0] + " DEFAULT " + c[1] + "} D ::= SEQUENCE {..., a " + c[0] + "}");
+            SyntaxForge forge = bench.ready();
+            String ber = Kit.encode(forge, 1, 0, "{a " + c[1] + "}");
+            String per = Kit.encode(forge, 1, 1, "{a " + c[1] + "}");
+            String behind = Kit.encode(forge, 3, 1, "{a " + c[1] + "}");
+            bench.encode(0, 0, "{a " + c[1] + "}", "3000");
+            bench.encode(0, 1, "{a " + c[1] + "}", "00");
+            bench.encode(2, 1, "{a " + c[1] + "}", "00");
+            bench.onlyBer(0, ber, "{}");
+            bench.onlyBer(2, ber, "{}");
+            bench.decode(0, 1, per, "{}");
+            bench.decode(2, 1, behind, "{}");
+            String other = Kit.encode(forge, 1, 0, "{a " + c[2] + "}");
+            bench.encode(0, 0, "{a " + c[2] + "}", other);
+            bench.decode(0, 0, other, Kit.decode(forge, 1, 0, Kit.hex(other)));
+            String otherPer = Kit.encode(forge, 1, 1, "{a " + c[2] + "}");
+            bench.encode(0, 1, "{a " + c[2] + "}", otherPer);
+            bench.decode(0, 1, otherPer, Kit.decode(forge, 1, 1, Kit.hex(otherPer)));
+        }
     }
 
     private static void syntaxBeforeSound() {

@@ -163,6 +163,12 @@ final class TokenEdgeTest {
         bench.none(UTF8, "\"\u0000\"", 0);
         bench.none(UTF8, " \"a\u0080\"", 1);
         bench.none(UTF8, "\"\u00ff\"", 0);
+        bench.none(UTF8, "\"\u0000\" ;", 0);
+        bench.none(UTF8, "\"\u0080\" ;", 0);
+        bench.none(UTF8, "\"\u00ff\" ;", 0);
+        Bench.broken("A ::= SEQUENCE {a UTF8String DEFAULT \"\u0000\"}", 37);
+        Bench.broken("A ::= SEQUENCE {a UTF8String DEFAULT \"\u0080\"}", 37);
+        Bench.sound("A ::= SEQUENCE {a UTF8String DEFAULT \"\u0001\u007f\"}");
     }
 
     private static void bitsAndHex() {
@@ -191,6 +197,8 @@ final class TokenEdgeTest {
         Bench.broken("A : := NULL", 2);
         Bench.broken("A :: = NULL", 2);
         Bench.broken("A :: NULL", 2);
+        Bench.broken("A : = NULL", 2);
+        Bench.broken("A :\n= NULL", 2);
         Bench.broken("A = NULL", 2);
         Bench.sound("A ::= INTEGER (1 .. 2 , ...)");
         Bench.broken("A ::= INTEGER (1.2)", 16);
@@ -365,6 +373,11 @@ final class TokenEdgeTest {
         for (String sort : new String[] {"", "UNIVERSAL ", "APPLICATION ", "PRIVATE "}) {
             for (String word : new String[] {"", "IMPLICIT ", "EXPLICIT "}) {
                 Bench.sound("A ::= [" + sort + "0] " + word + "NULL");
+            }
+        }
+        for (String word : KEPT) {
+            if (!word.equals("UNIVERSAL") && !word.equals("APPLICATION") && !word.equals("PRIVATE")) {
+                Bench.broken("A ::= [" + word + " 5] NULL", 7);
             }
         }
         Bench.broken("A ::= [1] [2] NULL", 10);

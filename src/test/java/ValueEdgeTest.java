@@ -16,6 +16,7 @@ final class ValueEdgeTest {
         alternatives();
         otherForms();
         leftToRight();
+        rowsOfStrings();
         printedComposed();
         printedStrings();
         printedNumbers();
@@ -346,6 +347,23 @@ final class ValueEdgeTest {
         bench.none(3, "{a TRUE}", 0);
     }
 
+    private static void rowsOfStrings() {
+        Kit.sentence("VALUES of a TYPE, one behind another");
+        Bench bench = new Bench("A ::= SEQUENCE OF OBJECT IDENTIFIER B ::= SEQUENCE OF OCTET STRING C ::= SEQUENCE OF BIT STRING D ::= SEQUENCE OF IA5String "
+                + "E ::= SEQUENCE OF NumericString F ::= SEQUENCE OF UTF8String");
+        bench.der(0, "{{1 2 3}, {2 5}, {0 1 16384}}", "300d" + "06022a03" + "060155" + "060401818000");
+        bench.per(0, "{{1 2 3}, {2 5}, {0 1 16384}}", "03" + "022a03" + "0155" + "0401818000");
+        bench.der(1, "{'01'H, ''H, '0203'H}", "3009" + "040101" + "0400" + "04020203");
+        bench.per(1, "{'01'H, ''H, '0203'H}", "03" + "0101" + "00" + "020203");
+        bench.der(2, "{'101'B, ''H, 'FF'H}", "300b" + "030205a0" + "030100" + "030200ff");
+        bench.per(2, "{'101'B, ''H, 'FF'H}", "0303a0011fe0");
+        bench.der(3, "{\"a\", \"\", \"bc\"}", "3009" + "160161" + "1600" + "16026263");
+        bench.der(4, "{\"1\", \"\", \"23\"}", "3009" + "120131" + "1200" + "12023233");
+        bench.per(4, "{\"1\", \"\", \"23\"}", "03" + "012" + "00" + "02" + "34" + "0");
+        bench.der(5, "{\"a\", \"\", \"bc\"}", "3009" + "0c0161" + "0c00" + "0c026263");
+        bench.per(5, "{\"a\", \"\", \"bc\"}", "03" + "0161" + "00" + "026263");
+    }
+
     private static void printedComposed() {
         Kit.sentence("PRINTED: no blanks but one behind , behind an ID of a PART, and between numbers; : without; { } without any within");
         Bench bench = new Bench("A ::= SEQUENCE {a SEQUENCE {}, b SEQUENCE OF INTEGER, c C, d OBJECT IDENTIFIER, e SET OF C} C ::= CHOICE {x NULL, y SET {z BOOLEAN}}");
@@ -395,7 +413,7 @@ final class ValueEdgeTest {
         bench.der(1, "{2 100 0 1000}", "060581340087" + "68");
     }
 
-    /** A VALUE of 4 bytes, or of so many more as the OCTET STRING has, and 200 for each NULL, under EXPLICIT tags. */
+    /** Each NULL stands under 99 EXPLICIT tags; the OCTET STRING makes up what is left. */
     private static void derTooLong() {
         Kit.sentence("Promise 5: THE RESULT is its bytes; more than 65536: IndexOutOfBoundsException (THE RESULT stays whenever this throws). Answers how many.");
         StringBuilder chain = new StringBuilder("A::=SEQUENCE{a SEQUENCE OF T0,b OCTET STRING} ");
@@ -407,7 +425,7 @@ final class ValueEdgeTest {
         for (int i = 0; i < 99; i++) {
             each += each < 128 ? 2 : 3;
         }
-        int count = 260;
+        int count = (65536 - 400) / each;
         int lists = 4 + count * each;
         int left = 65536 - 4 - lists - 4;
         String nulls = "{a {" + "NULL,".repeat(count - 1) + "NULL},b '";
@@ -423,6 +441,12 @@ final class ValueEdgeTest {
             Kit.due("its last byte", Kit.ask(() -> forge.word(last)), more > 0 ? Bench.LONG : "0");
             Kit.due("none behind it", Kit.ask(() -> forge.word(last + 1)), Bench.LONG);
         }
+        Kit.sentence("Promise 5: SYNTAX is broken, or it is none of the TYPE .. before more than 65536");
+        String tooMany = nulls.replace("NULL},b", "NULL,NULL,NULL,NULL,NULL},b") + "00".repeat(left + 1);
+        bench.none(0, tooMany, tooMany.length() - 2 * left - 3);
+        bench.none(0, tooMany + "'H", tooMany.length() + 2);
+        bench.none(0, tooMany + "0'B}", tooMany.indexOf('\''));
+        bench.encode(0, 0, tooMany + "'H}", Bench.LONG);
     }
 
     /** Each {a 0} takes two bits, LENGTH and bits of all EXTENSIONS, and a whole one of a byte with its LENGTH. */
@@ -434,7 +458,7 @@ final class ValueEdgeTest {
             String second = i < 26 ? "" : Character.toString("abcdefghijklmnopqrstuvwxyz0123456789".charAt(i / 26 - 1));
             text.append(',').append((char) ('a' + i % 26)).append(second).append(" N");
         }
-        Bench bench = new Bench("AUTOMATIC TAGS ", text + "}");
+        Bench bench = new Bench("AUTOMATIC TAGS ", text + "} W::=CHOICE{n NULL,...,w A}");
         int bits = 2 + 16 + extensions + 16;
         int count = 65536 * 8 / bits - 2;
         int bytes = (65536 * 8 - 16 - count * bits - 16) / 8;
@@ -445,6 +469,17 @@ final class ValueEdgeTest {
             Kit.due("THE TAPE", forge.count(0), 0);
             Kit.due("PLACE", forge.count(3), -1);
             Kit.due("THE RESULT", forge.count(1), more > 0 ? 5 : 65536 + more);
+        }
+        Kit.sentence("LENGTH and the bytes of a whole one: 80 c3, 49152 bytes, LENGTH 16380 and as many are 65536");
+        for (int more = -1; more <= 1; more++) {
+            SyntaxForge forge = bench.ready();
+            Kit.lay(forge, Kit.ascii("w:{a{" + "{a 0},".repeat(count - 1) + "{a 0}},b'" + "00".repeat(bytes - 4 + more) + "'H}"));
+            Kit.due("a whole one", Kit.ask(() -> forge.encode(3, 1)), more > 0 ? Bench.LONG : Integer.toString(65536 + more));
+            Kit.due("THE RESULT", forge.count(1), more > 0 ? 5 : 65536 + more);
+            Kit.due("its first bytes", forge.word(0) >>> 48, more > 0 ? 0x4703L : 0x80C3L);
+            if (more <= 0) {
+                Kit.due("the second LENGTH", forge.word(2 + 49152) >>> 48, 0xBFFCL + more);
+            }
         }
     }
 
