@@ -14,6 +14,7 @@ final class AgainTest {
         defaultsBeforeNone();
         namesOfAnotherText();
         longBeforeShort();
+        extensionsBeforeNone();
         fullBeforeEmpty();
         for (int seed = 1; seed <= 150; seed++) {
             atRandom(seed);
@@ -71,6 +72,17 @@ final class AgainTest {
         Kit.due("what lay behind is not read", Kit.decode(forge, 0, 2, Kit.hex("0405ff")), Bench.NONE);
         Kit.due("what lay behind is not read", Kit.decode(forge, 0, 1, Kit.hex("05ff")), Bench.NONE);
         Kit.due("short", Kit.encode(forge, 1, 0, "{1}"), "3003020101");
+    }
+
+    private static void extensionsBeforeNone() {
+        Kit.sentence("more bits than it knows: those are passed over");
+        SyntaxForge forge = new SyntaxForge();
+        reads(forge, "A ::= SEQUENCE {..., a BOOLEAN}", 1);
+        Kit.due("two unknown", Kit.decode(forge, 0, 1, Kit.hex("82e0300020002000")), "{a TRUE}");
+        Kit.due("none unknown", Kit.decode(forge, 0, 1, Kit.hex("8080c000")), "{a TRUE}");
+        Kit.due("two unknown that are not there", Kit.decode(forge, 0, 1, Kit.hex("8260")), Bench.NONE);
+        Kit.due("none unknown", Kit.decode(forge, 0, 1, Kit.hex("8080c000")), "{a TRUE}");
+        Kit.due("none there", Kit.decode(forge, 0, 1, Kit.hex("00")), "{}");
     }
 
     private static void fullBeforeEmpty() {

@@ -14,6 +14,7 @@ final class BerEdgeTest {
         shortLengths();
         longLengths();
         lengthAlone();
+        zerosThatAreNoEnd();
         booleans();
         integers();
         enumerated();
@@ -171,6 +172,9 @@ final class BerEdgeTest {
         bench.onlyBer(3, "a1800401aa0000", value(1));
         bench.noBer(3, "a1800000");
         bench.noBer(3, "a1800401aa");
+        bench.noBer(3, "a1800401aa00");
+        bench.noBer(3, "a1800401aa0001");
+        bench.noBer(3, "a1800401aa0100");
         bench.noBer(3, "a1800401aa0401aa0000");
         bench.onlyBer(4, "31800000", "{}");
         bench.onlyBer(4, "318005000000", "{a NULL}");
@@ -188,6 +192,30 @@ final class BerEdgeTest {
         bench.noBer(0, "30020000");
         bench.noBer(5, "30020000");
         bench.noBer(5, "300404000000");
+    }
+
+    /** A VALUE of [UNIVERSAL 0] may have the bytes 0 0: they end what has the length 128 alone, and are the VALUE elsewhere. */
+    private static void zerosThatAreNoEnd() {
+        Kit.sentence("Length: .. 128 alone ..: up to two bytes 0 where a VALUE would begin.");
+        Bench bench = new Bench("A ::= [1] EXPLICIT Z Z ::= [UNIVERSAL 0] IMPLICIT NULL C ::= [1] CHOICE {a Z} D ::= SEQUENCE {a Z OPTIONAL, b NULL OPTIONAL} "
+                + "E ::= SET {a Z OPTIONAL, b NULL OPTIONAL} F ::= SEQUENCE OF Z");
+        bench.der(0, "NULL", "a1020000");
+        bench.noBer(0, "a18000000000");
+        bench.noBer(0, "a1800000");
+        bench.onlyBer(0, "a1800081000000", "NULL");
+        bench.der(1, "NULL", "0000");
+        bench.der(2, "a:NULL", "a1020000");
+        bench.noBer(2, "a18000000000");
+        bench.der(3, "{a NULL, b NULL}", "3004" + "0000" + "0500");
+        bench.onlyBer(3, "3080" + "0000", "{}");
+        bench.noBer(3, "3080" + "0000" + "0500" + "0000");
+        bench.onlyBer(3, "3080" + "008100" + "0500" + "0000", "{a NULL, b NULL}");
+        bench.der(4, "{a NULL, b NULL}", "3104" + "0000" + "0500");
+        bench.noBer(4, "3180" + "0500" + "0000" + "0000");
+        bench.onlyBer(4, "3180" + "0500" + "008100" + "0000", "{a NULL, b NULL}");
+        bench.der(5, "{NULL, NULL}", "3004" + "0000" + "0000");
+        bench.onlyBer(5, "3080" + "0000", "{}");
+        bench.noBer(5, "3080" + "0000" + "0000");
     }
 
     private static void booleans() {
