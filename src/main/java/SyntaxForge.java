@@ -585,7 +585,7 @@ public final class SyntaxForge {
         private int scanNumber(int from) {
             long n = 0;
             int i = from;
-            for (; isDigit(tape.get(i)); i++) {
+            for (; i < tape.length && isDigit(tape.get(i)); i++) {
                 int digit = tape.get(i) - '0';
                 if (i > from && n == 0 || n > (Long.MAX_VALUE - digit) / 10) {
                     return -1;
@@ -616,7 +616,7 @@ public final class SyntaxForge {
         private int scanDigits(int from) {
             boolean binary = true;
             int i = blanks(from + 1);
-            for (; hexDigit(tape.get(i)) >= 0; i = blanks(i + 1)) {
+            for (; i < tape.length && hexDigit(tape.get(i)) >= 0; i = blanks(i + 1)) {
                 binary = binary && hexDigit(tape.get(i)) <= 1;
             }
             int sort = tape.get(i + 1);
@@ -2316,12 +2316,11 @@ public final class SyntaxForge {
             long n = 0;
             int b = next(limit);
             insist(b != 128);
-            while (b > 127 && at < limit) {
+            for (int i = 0; b > 127 && i < LONGEST; i++) {
                 n = Math.min(n << 7 | b & 127, FAR_TAG);
                 b = next(limit);
             }
-            insist(b < 128);
-            n = Math.min(n << 7 | b, FAR_TAG);
+            n = Math.min(n << 7 | b & 127, FAR_TAG);
             insist(n >= 31);
             return n;
         }
