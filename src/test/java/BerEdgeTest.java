@@ -777,7 +777,6 @@ final class BerEdgeTest {
         Kit.sentence("as soon as the 65537th VALUE is begun: what is behind it is not looked at");
         bench.decode(1, BER, listOf(65537) + "00", LONG);
         bench.decode(1, BER, listOf(65536) + "00", NONE);
-        bench.decode(1, DER, listOf(65537), NONE);
     }
 
     private static void begunAheadOfItsBytes() {
@@ -789,7 +788,6 @@ final class BerEdgeTest {
         bench.decode(0, BER, contents("30", full + "300405000101"), LONG);
         bench.decode(0, BER, contents("30", full + "300305009f"), LONG);
         bench.decode(0, BER, contents("30", full + "30020100"), NONE);
-        bench.decode(0, BER, contents("30", full + "3080050000"), LONG);
         bench.decode(0, BER, contents("30", full + "308005000000"), "{l " + printedListOf(65533) + ", n {NULL}}");
     }
 
