@@ -3099,6 +3099,7 @@ public final class SyntaxForge {
                 }
                 for (int i = 0; i < unknown; i++) {
                     int bytes = wholeLength();
+                    insistOnBytes(bytes);
                     at += 8 * bytes;
                 }
             }
@@ -3128,19 +3129,25 @@ public final class SyntaxForge {
             return flags;
         }
 
-        /** A whole one of more bytes than a LENGTH has without FRAGMENTS does not fit on what 512 calls feed. */
         private int wholeLength() {
             int n = lengthAfter(0);
-            insist(n >= 1 && n < FRAGMENT && 8 * n <= limit - at);
+            insist(n >= 1);
             return n;
         }
 
+        /** A whole one of more bytes than a LENGTH has without FRAGMENTS does not fit on what 512 calls feed. */
+        private void insistOnBytes(int n) {
+            insist(n < FRAGMENT && 8 * n <= limit - at);
+        }
+
+        /** Its LENGTH says that it has bytes, so it is begun, before it is seen whether they are all there. */
         private void whole(Value v, Member m, int depth) {
             int n = wholeLength();
+            Value c = values.begin(depth);
+            insistOnBytes(n);
             int start = at;
             int before = limit;
             limit = at + 8 * n;
-            Value c = values.begin(depth);
             v.insert(c, m);
             fill(c, m.type, depth + 1);
             insist(Math.max(1, (at - start + 7) / 8) == n);

@@ -44,6 +44,7 @@ final class PerEdgeTest {
         lastOf65536();
         begunAhead();
         wholeWithoutBytes();
+        wholeBegunAhead();
         depthBeforeTheOther();
         Kit.finish();
     }
@@ -815,6 +816,86 @@ final class PerEdgeTest {
         chosen.decode(0, PER, bits(listOf(65534) + "1 0 000000 00000001 00000000"), LONG);
         chosen.decode(0, PER, bits(listOf(65534) + "1 0 000000 00000000"), NONE);
         chosen.decode(0, PER, bits(listOf(65535) + "1 0 000000 00000000"), LONG);
+    }
+
+    private static void wholeBegunAhead() {
+        Kit.sentence("Promise 6: one is begun ahead of its bytes; a whole one in PER without bytes is not");
+        Bench part = lists("SEQUENCE {l L, ..., o OCTET STRING}");
+        wholeAfter(part, "1", 65535, "0 000000 1");
+        Bench alternative = lists("SEQUENCE {l L, c CHOICE {x NULL, ..., y OCTET STRING}}");
+        wholeAfter(alternative, "", 65534, "1 0 000000");
+        wholeInWhole();
+        wholesOfNulls();
+        passedOverAreNotBegun();
+    }
+
+    /** With so many VALUES in the list the whole one is the 65537th, with one less the 65536th. */
+    private static void wholeAfter(Bench bench, String before, int values, String flags) {
+        String[] lengths = {"00000001", "00000101", "01111111", "10 00000010000000", "10 11111111111111", "11 000001", "11 000010", "11 000011", "11 000100"};
+        for (String length : lengths) {
+            for (String rest : new String[] {"", "00000001 01000001"}) {
+                bench.decode(0, PER, bits(before + listOf(values) + flags + length + rest), LONG);
+                bench.decode(0, PER, bits(before + listOf(values - 1) + flags + length + rest), NONE);
+            }
+        }
+        String[] noLengths = {"00000000", "10 00000000000000", "10 00000001111111", "11 000000", "11 000101", "11 111111"};
+        for (String length : noLengths) {
+            bench.decode(0, PER, bits(before + listOf(values) + flags + length + "00000001 01000001"), NONE);
+            bench.decode(0, PER, bits(before + listOf(values - 1) + flags + length + "00000001 01000001"), NONE);
+        }
+    }
+
+    /** The outer one has four bytes, 9 bits ahead of the LENGTH of the inner one, which has never so many as it says. */
+    private static void wholeInWhole() {
+        Kit.sentence("Promise 6: one is begun ahead of its bytes (a whole one in a whole one, too)");
+        Bench bench = lists("SEQUENCE {l L, ..., s SEQUENCE {..., o OCTET STRING}}");
+        String outer = "0 000000 1 00000100";
+        String inner = "1 0 000000 1";
+        for (String length : new String[] {"00000010 0000000 00000000", "00000011 0000000 00000000", "10 00000010000000 0000000", "11 000001 0000000 00000000"}) {
+            for (String behind : new String[] {"", "00000000", "00000000".repeat(200)}) {
+                String wanting = outer + inner + length + behind;
+                bench.decode(0, PER, bits("1" + listOf(65534) + wanting), LONG);
+                bench.decode(0, PER, bits("1" + listOf(65533) + wanting), NONE);
+            }
+        }
+        String right = outer + inner + "00000001 00000000 0000000";
+        bench.decode(0, PER, bits("1" + listOf(65533) + right), "{l " + printedListOf(65533) + ", s {o ''H}}");
+        bench.decode(0, PER, bits("1" + listOf(65534) + right), LONG);
+        bench.decode(0, PER, bits("1" + listOf(65534) + outer + inner + "00000000 00000000 0000000"), NONE);
+        bench.decode(0, PER, bits("1" + listOf(65534) + "0 000000 1 00000010" + inner + "00000001 00000000"), NONE);
+        bench.decode(0, PER, bits("1" + listOf(65534) + "0 000000 1 00010000" + inner + "00000001 00000000"), NONE);
+        bench.decode(0, PER, bits("1" + listOf(65535) + "0 000000 1 00010000" + inner + "00000001 00000000"), LONG);
+    }
+
+    /** What is in a whole one is not begun if its bytes are not all there. */
+    private static void wholesOfNulls() {
+        Bench bench = new Bench("A ::= SEQUENCE {a SEQUENCE OF NULL, ..., b OCTET STRING} "
+                + "B ::= SEQUENCE {a SEQUENCE OF NULL, b CHOICE {x NULL, ..., y OCTET STRING}} C ::= SEQUENCE {a SEQUENCE OF NULL, ..., b SEQUENCE OF NULL}");
+        bench.decode(0, PER, "e1dfff008280a080", LONG);
+        bench.decode(0, PER, "e1dffe808280a080", NONE);
+        bench.decode(0, PER, "e1dfff00808080", LONG);
+        bench.decode(0, PER, "e1dfff0080", NONE);
+        bench.decode(0, PER, "e1dfff008000", NONE);
+        bench.decode(1, PER, "c3bffd80050141", LONG);
+        bench.decode(1, PER, "c3bffc80050141", NONE);
+        bench.decode(1, PER, "c3bffd800141", LONG);
+        bench.decode(1, PER, "c3bffd8000", NONE);
+        bench.decode(1, PER, "c3bffd80", NONE);
+        bench.decode(2, PER, "e1dffe80808080", LONG);
+        bench.decode(2, PER, "e1dffe80810080", NONE);
+    }
+
+    private static void passedOverAreNotBegun() {
+        Kit.sentence("more bits than it knows: those are passed over");
+        Bench bench = lists("SEQUENCE {l L, ..., o OCTET STRING}");
+        bench.decode(0, PER, bits("1" + listOf(65535) + "0 000001 01 00000010 00000000 00000000"), "{l " + printedListOf(65535) + "}");
+        bench.decode(0, PER, bits("1" + listOf(65535) + "0 000001 01 00000101 00000000 00000000"), NONE);
+        bench.decode(0, PER, bits("1" + listOf(65535) + "0 000001 01 11 000001 00000000 00000000"), NONE);
+        bench.decode(0, PER, bits("1" + listOf(65535) + "0 000001 01 00000000"), NONE);
+        Bench followed = lists("SEQUENCE {l L, s SEQUENCE {...}, n NULL}");
+        followed.decode(0, PER, bits(listOf(65533) + "1 0 000000 1 00000001 00000000"), "{l " + printedListOf(65533) + ", s {}, n NULL}");
+        followed.decode(0, PER, bits(listOf(65534) + "1 0 000000 1 00000001 00000000"), LONG);
+        followed.decode(0, PER, bits(listOf(65534) + "1 0 000000 1 00000101 00000000"), NONE);
     }
 
     private static void depthBeforeTheOther() {
